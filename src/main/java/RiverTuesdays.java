@@ -508,14 +508,12 @@ public final class RiverTuesdays {
         if (refused != 0) {
             return refused;
         }
-        trialBed.takeFrom(present.bed);
-        for (int together = 0; together <= MOST_RAISE; together++) {
-            if (findRaise(plan, together)) {
-                rows[r].takeFrom(perHouse, present.bed.houses);
-                return together;
-            }
+        int together = findRaises(plan);
+        if (together > MOST_RAISE) {
+            return NONE;
         }
-        return NONE;
+        rows[r].takeFrom(perHouse, present.bed.houses);
+        return together;
     }
 
     public int whose(int plan) {
@@ -848,37 +846,21 @@ public final class RiverTuesdays {
 
     // ---- sills aside
 
-    // perHouse holds what was found; all ways to share come by houses, the least first.
-    private boolean findRaise(int plan, int together) {
-        int last = present.bed.houses - 1;
-        Arrays.fill(perHouse, 0);
-        perHouse[last] = together;
-        for (int way = 0; way < 1000; way++) {
-            for (int i = 0; i <= last; i++) {
-                trialBed.height[i] = present.bed.height[i] + perHouse[i];
-            }
-            today.begin(present.now);
-            if (today.isHarmless(trialBed, plan)) {
-                return true;
-            }
-            if (!goToNextShares(last)) {
-                return false;
-            }
+    // On a Tuesday without harm all water goes as if no cellar had room, whatever the
+    // sills are: so each sill has to be as high as the water stands then, and no higher.
+    private int findRaises(int plan) {
+        trialBed.takeFrom(present.bed);
+        System.arraycopy(present.now.below, 0, trialBed.cellar, 0, MOST_HOUSES);
+        today.begin(present.now);
+        today.lead(trialBed, plan);
+        int together = 0;
+        for (int i = 0; i < present.bed.houses; i++) {
+            boolean hasRoom = present.bed.cellar[i] > present.now.below[i];
+            int above = Math.max(today.markAt[DAY][i] - present.bed.height[i], 0);
+            perHouse[i] = hasRoom ? above : 0;
+            together += perHouse[i];
         }
-        return false;
-    }
-
-    private boolean goToNextShares(int last) {
-        for (int i = last; i > 0; i--) {
-            if (perHouse[i] > 0) {
-                int rest = perHouse[i] - 1;
-                perHouse[i] = 0;
-                perHouse[i - 1]++;
-                perHouse[last] = rest;
-                return true;
-            }
-        }
-        return false;
+        return together;
     }
 
     private int harmWithRaised(int i, int plan) {
@@ -1419,16 +1401,6 @@ public final class RiverTuesdays {
             }
             latestPlan = plan;
             isLed = true;
-        }
-
-        boolean isHarmless(Bed bed, int plan) {
-            for (int h = 0; h < DAY; h++) {
-                leadHour(bed, plan, h);
-                if (harmSoFar[h + 1] > 0) {
-                    return false;
-                }
-            }
-            return true;
         }
 
         private int hoursAlike(int plan) {
