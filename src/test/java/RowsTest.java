@@ -150,6 +150,8 @@ public final class RowsTest {
         Due.tells(x, "mean", x.mean(0), 1, 3);
         Make.row(x, 0, -3, -4);
         Due.tells(x, "mean below 0, cut", x.mean(0), 1, -3);
+        Make.row(x, 0, 8);
+        Due.tells(x, "mean of one", x.mean(0), 1, 8);
         int most = Integer.MAX_VALUE;
         Make.row(x, 1, most, most, most - 3);
         Due.tells(x, "mean of a sum that is no int", x.mean(1), 1, most - 1);

@@ -88,6 +88,13 @@ public final class TextsTest {
         faultIs("q10ha23", 4);
         faultIs("q10h1a3", 5);
         faultIs("q10h12a", 6);
+        String far = " ".repeat(52);
+        faultIs(far + " ".repeat(8), 60);
+        faultIs(far + "       q", 60);
+        faultIs(far + "      q1", 60);
+        faultIs(far + "q10    h", 60);
+        faultIs(far + "q10  h12", 60);
+        faultIs(far + "q10 h123", NONE);
         RiverTuesdays x = new RiverTuesdays();
         Due.is("fault of text 4", x.fault(4), BAD);
         Due.is("fault of text -1", x.fault(-1), BAD);

@@ -116,6 +116,9 @@ public final class ToldTest {
         x = Make.street("q99 h000");
         x.hour(1);
         partIs(x, "all", 1, 1);
+        x = Make.street("q19 h000");
+        x.hour(1);
+        partIs(x, "1 of 1", 1, 1);
         x = Make.street("q90 h900 h009");
         x.hour(1);
         x.hour(0);
