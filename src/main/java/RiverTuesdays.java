@@ -972,7 +972,7 @@ public final class RiverTuesdays {
             return all;
         }
 
-        // 0 is below none of what is asked for here: water.
+        // Only asked of rows of water, which is never below 0.
         int greatest() {
             int most = 0;
             for (int i = 0; i < size; i++) {
