@@ -91,12 +91,14 @@ public final class HoursTest {
                 x.pump(1);
                 x.shut(4, 1);
             }
-            int stands = 0;
-            for (int i = 0; i < 6; i++) {
-                stands += Make.house(x, i, 4) + Make.house(x, i, 5);
+            if (n % 5 == 0) {
+                int stands = 0;
+                for (int i = 0; i < 6; i++) {
+                    stands += Make.house(x, i, 4) + Make.house(x, i, 5);
+                }
+                int in = x.water();
+                Due.is("in is out and stands, hour " + n, in, x.asked() + stands);
             }
-            int in = x.water();
-            Due.is("in is out and stands, hour " + n, in, x.asked() + stands);
         }
     }
 

@@ -5,7 +5,8 @@ import java.util.Random;
  * answer, with what asked() and finding() tell behind it, has to be the same.
  */
 public final class ModelTest {
-    private static final int RUNS = 260, CALLS = 512;
+    // An object is used for at most 512 calls; a step of a run has at most some 100.
+    private static final int RUNS = 500, CALLS = 512, STEP = 100;
     private static final String LETTERS = "hmsdwl";
 
     private final Random lots;
@@ -33,15 +34,18 @@ public final class ModelTest {
         calls++;
         String at = "run " + run + " call " + calls + " " + call;
         Due.is(at, got, want);
-        Due.is(at + ", asked()", x.asked(), m.asked());
-        Due.is(at + ", finding()", x.finding(), m.finding());
+        if (lots.nextInt(4) == 0) {
+            calls += 2;
+            Due.is(at + ", asked()", x.asked(), m.asked());
+            Due.is(at + ", finding()", x.finding(), m.finding());
+        }
     }
 
     private void go() {
         if (lots.nextInt(8) != 0) {
             begin();
         }
-        while (calls < CALLS) {
+        while (calls < CALLS - STEP) {
             int kind = lots.nextInt(100);
             if (kind < 20) {
                 rowCall();
@@ -122,11 +126,11 @@ public final class ModelTest {
         int t = lots.nextInt(4);
         same("text", x.text(t, street.length()), m.text(t, street.length()));
         for (int i = 0; i < street.length(); i++) {
-            if (street.charAt(i) != ' ' && calls < CALLS - 3) {
+            if (street.charAt(i) != ' ') {
                 put(t, i, street.charAt(i));
             }
         }
-        if (lots.nextInt(10) == 0 && calls < CALLS - 3) {
+        if (lots.nextInt(10) == 0) {
             put(t, lots.nextInt(60), " q0189hmsdwlx".charAt(lots.nextInt(13)));
         }
         same("fault " + street, x.fault(t), m.fault(t));
@@ -228,11 +232,9 @@ public final class ModelTest {
 
     private int someLock(int otherwise) {
         for (int i = 0; i < m.count(0); i++) {
-            if (Make.house(x, i, 0) == 5 && lots.nextBoolean()) {
-                m.house(i, 0);
+            if (m.ofHouse(i, 0) == 5 && lots.nextBoolean()) {
                 return i;
             }
-            m.house(i, 0);
         }
         return otherwise;
     }
@@ -325,9 +327,6 @@ public final class ModelTest {
 
     private void marksCalls(int r) {
         int plan = aPlan(), houses = m.count(0);
-        if (calls > CALLS - 40) {
-            return;
-        }
         if (lots.nextInt(6) != 0) {
             same("marks " + plan + " " + r, x.marks(plan, r), m.marks(plan, r));
             for (int i = 0; i < houses; i++) {
@@ -355,7 +354,7 @@ public final class ModelTest {
 
     private void workCall() {
         int a = r(), b = r(), r = r();
-        if (lots.nextInt(3) != 0 && calls < CALLS - 40) {
+        if (lots.nextInt(3) != 0) {
             int n = lots.nextInt(7);
             int longest = 2 + lots.nextInt(24);
             layJobs(Math.floorMod(a, 6), n, 1, longest);

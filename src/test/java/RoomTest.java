@@ -2,7 +2,8 @@ import java.lang.management.ManagementFactory;
 
 /** A run has one room for all its calls: only the constructor may make anything. */
 public final class RoomTest {
-    private static final int CALLS = 512;
+    // An object is used for at most 512 calls: a round has some 90.
+    private static final int OBJECTS = 80, ROUNDS = 5;
     private static final long BYTES_OF_AN_OBJECT = 100000;
 
     public static void main(String[] args) {
@@ -10,15 +11,19 @@ public final class RoomTest {
                 (com.sun.management.ThreadMXBean) ManagementFactory.getThreadMXBean();
         long id = Thread.currentThread().getId();
         allCalls(new RiverTuesdays(), 0);
+        RiverTuesdays[] all = new RiverTuesdays[OBJECTS];
         room.getThreadAllocatedBytes(id);
         long before = room.getThreadAllocatedBytes(id);
-        RiverTuesdays x = new RiverTuesdays();
+        for (int n = 0; n < OBJECTS; n++) {
+            all[n] = new RiverTuesdays();
+        }
         long made = room.getThreadAllocatedBytes(id);
-        for (int n = 0; n < CALLS; n++) {
-            allCalls(x, n);
+        for (int n = 0; n < OBJECTS * ROUNDS; n++) {
+            allCalls(all[n / ROUNDS], n);
         }
         long after = room.getThreadAllocatedBytes(id);
-        Due.is("an object is too large by", Math.max(0, made - before - BYTES_OF_AN_OBJECT), 0);
+        Due.is("objects are too large by",
+                Math.max(0, made - before - OBJECTS * BYTES_OF_AN_OBJECT), 0);
         Due.is("calls make too much by", Math.max(0, after - made - 4000), 0);
         Due.end("RoomTest");
     }

@@ -102,8 +102,8 @@ public final class TextsTest {
     }
 
     private static void faultOfBytes() {
-        RiverTuesdays x = new RiverTuesdays();
         for (int v = -128; v <= 127; v++) {
+            RiverTuesdays x = new RiverTuesdays();
             Make.text(x, 0, "q10h000");
             x.put(0, 3, v);
             Due.is("letter " + v, x.fault(0), v == ' ' ? 4 : "hmsdwl".indexOf(v) >= 0 ? NONE : 3);

@@ -350,7 +350,7 @@ final class Model {
         return town.houses.size();
     }
 
-    private int ofHouse(int i, int what) {
+    int ofHouse(int i, int what) {
         House h = town.houses.get(i);
         return new int[] {LETTERS.indexOf(h.letter), h.floor, h.sill, h.cellar, h.water,
             h.inCellar, h.ground}[what];
