@@ -28,6 +28,7 @@ public final class HourEdgesTest {
         onNumbers();
         keepOfNoHoursAndOfSixty();
         keptApart();
+        onWithItsHours();
         onAgain();
         Due.end("HourEdgesTest");
     }
@@ -51,7 +52,8 @@ public final class HourEdgesTest {
     }
 
     private static void levels() {
-        Due.term("if its LEVEL is above that of the next one, the half of the difference, rounded up, runs on there");
+        Due.term("if its LEVEL is above that of the next one, the half of the difference, rounded "
+                + "up, runs on there");
         hourIs("q15 h200", 1, 1, 0);
         hourIs("q25 h200", 1, 2, 0);
         hourIs("q35 h200", 1, 3, 0);
@@ -87,7 +89,8 @@ public final class HourEdgesTest {
     }
 
     private static void atOnce() {
-        Due.term("HOUSE by HOUSE, from 0 on; runs on there (at once); what runs into the SEA is out");
+        Due.term("HOUSE by HOUSE, from 0 on; runs on there (at once); what runs into the SEA is "
+                + "out");
         hourIs("q90 h900 h600 h300", 1, 3 + 1 + 1, 4);
         hourIs("q10 h100 h100 h100 h100 h100 h100 h100 h100", 1, 0, 1);
         RiverTuesdays x = hourIs("q80 h000 h000 h000", 1, 7, 1);
@@ -270,7 +273,8 @@ public final class HourEdgesTest {
     }
 
     private static void undoStays() {
-        Due.sentence(19, "WATER, cellars, what was GROUND, in, out, as ahead of it; SILLS, FLOW, LOCKS stay");
+        Due.sentence(19, "WATER, cellars, what was GROUND, in, out, as ahead of it; SILLS, FLOW, "
+                + "LOCKS stay");
         RiverTuesdays x = Make.street("q92 w313 l012");
         x.hour(1);
         int[] before = waters(x);
@@ -425,6 +429,32 @@ public final class HourEdgesTest {
         Due.is("the third, too", x.on(2), 1);
     }
 
+    private static void onWithItsHours() {
+        Due.sentence(22, "The STREET is as it was kept (with its HOURS, which can be undone)");
+        RiverTuesdays x = Make.street("q61 m521 s413");
+        int[] stands = {2, 3, 5, 2};
+        for (int n = 0; n < 4; n++) {
+            Due.is("hour " + n, x.hour(n < 3 ? 1 : 0), stands[n]);
+        }
+        x.keep(1);
+        long kept = x.digest();
+        x.undo(0);
+        for (int n = 0; n < 5; n++) {
+            Due.is("other hours", x.hour(0), 0);
+        }
+        Due.is("on", x.on(1), 4);
+        Due.is("whether they were open, too", x.digest(), kept);
+        for (int n = 3; n >= 1; n--) {
+            Due.is("undo hour " + n, x.undo(n), 1);
+            Due.is("as behind hour " + (n - 1), Make.house(x, 0, 4) + Make.house(x, 1, 4),
+                    stands[n - 1]);
+        }
+        x.undo(0);
+        x.hour(0);
+        Due.is("on again", x.on(1), 4);
+        Due.is("kept as it was", x.digest(), kept);
+    }
+
     private static void onAgain() {
         Due.sentence(22, "The STREET is as it was kept (ROWS, TEXTS are as they are)");
         RiverTuesdays x = Make.built();
@@ -437,7 +467,9 @@ public final class HourEdgesTest {
         Due.is("a torn one", x.tear(5), RiverTuesdays.FINDING);
         Due.is("a text", x.put(3, 0, 0), 1000 + 'q');
         Due.is("asked stays", x.asked(), 1);
+        int found = x.findings(1);
         x.hour(1);
         Due.is("on again, from the same", x.on(1), 2);
+        Due.is("findings stay", x.findings(1), found);
     }
 }

@@ -76,7 +76,8 @@ public final class HouseEdgesTest {
     }
 
     private static void houseInHours() {
-        Due.sentence(12, "4 WATER ahead of it, 5 WATER in its cellar, 6 what it GROUND in all HOURS");
+        Due.sentence(12, "4 WATER ahead of it, 5 WATER in its cellar, 6 what it GROUND in all "
+                + "HOURS");
         RiverTuesdays x = Make.street("q90 w913");
         Due.tells(x, "dry", x.house(0, 4), 1, 0);
         for (int hours = 1; hours <= 10; hours++) {
@@ -159,7 +160,8 @@ public final class HouseEdgesTest {
     }
 
     private static void markOfMill() {
-        Due.sentence(13, "a MILL (WHEEL, too) how much would run on from it in the next HOUR, if the sluice is OPEN");
+        Due.sentence(13, "a MILL (WHEEL, too) how much would run on from it in the next HOUR, if "
+                + "the sluice is OPEN");
         markIs("q25 m200", 0, MILL, 0);
         markIs("q35 m200", 0, MILL, 0);
         markIs("q45 m200", 0, MILL, 1);
@@ -203,7 +205,8 @@ public final class HouseEdgesTest {
     }
 
     private static void markOfDam() {
-        Due.sentence(13, "a DAM (LOCK, too) how much higher its LEVEL is than the next one's (perhaps below 0)");
+        Due.sentence(13, "a DAM (LOCK, too) how much higher its LEVEL is than the next one's "
+                + "(perhaps below 0)");
         for (String kind : new String[] {"d", "l"}) {
             markIs("q19 " + kind + "000", 0, DAM, -9);
             markIs("q15 " + kind + "400", 0, DAM, -1);

@@ -270,7 +270,8 @@ public final class PlanEdgesTest {
     }
 
     private static void boatFromTo() {
-        Due.sentence(27, "from a HOUSE to another one (perhaps the same): both, and all between, are CUT OFF");
+        Due.sentence(27, "from a HOUSE to another one (perhaps the same): both, and all between, "
+                + "are CUT OFF");
         RiverTuesdays x = dryInTheMiddle();
         int[][] due = {{1, 1, 0, 0, 0}, {1, 1, 0, 0, 0}, {0, 0, 0, 0, 0}, {0, 0, 0, 1, 1},
             {0, 0, 0, 1, 1}};

@@ -109,7 +109,8 @@ public final class RowEdgesTest {
     private static void layPlaces() {
         Due.sentence(3, "BEYOND");
         for (int i : new int[] {-1, 3, MIN, MAX}) {
-            Refused.finds(Make::built, "lay at " + i + " of 3", Refused.BEYOND, x -> x.lay(0, i, 5));
+            Refused.finds(Make::built, "lay at " + i + " of 3", Refused.BEYOND,
+                    x -> x.lay(0, i, 5));
         }
         Refused.finds(Make::built, "lay at 0 of none", Refused.BEYOND, x -> x.lay(1, 0, 5));
         Refused.finds(Make::built, "lay at -1 of none", Refused.BEYOND, x -> x.lay(1, -1, 5));
@@ -218,10 +219,14 @@ public final class RowEdgesTest {
         for (int r : NO_ROWS) {
             Refused.bad(RowEdgesTest::threeAndTwo, "from " + r, x -> x.copy(r, 0, 1, 0, 1));
             Refused.bad(RowEdgesTest::threeAndTwo, "to " + r, x -> x.copy(0, 0, r, 0, 1));
-            Refused.bad(RowEdgesTest::threeAndTwo, "from " + r + ", of -1", x -> x.copy(r, 0, 1, 0, -1));
-            Refused.bad(RowEdgesTest::threeAndTwo, "to " + r + ", of -1", x -> x.copy(0, 0, r, 0, -1));
-            Refused.bad(RowEdgesTest::threeAndTwo, "to " + r + ", from none", x -> x.copy(3, 0, r, 0, 1));
-            Refused.bad(RowEdgesTest::threeAndTwo, "from " + r + ", to -1", x -> x.copy(r, 0, 1, -1, 1));
+            Refused.bad(RowEdgesTest::threeAndTwo, "from " + r + ", of -1",
+                    x -> x.copy(r, 0, 1, 0, -1));
+            Refused.bad(RowEdgesTest::threeAndTwo, "to " + r + ", of -1",
+                    x -> x.copy(0, 0, r, 0, -1));
+            Refused.bad(RowEdgesTest::threeAndTwo, "to " + r + ", from none",
+                    x -> x.copy(3, 0, r, 0, 1));
+            Refused.bad(RowEdgesTest::threeAndTwo, "from " + r + ", to -1",
+                    x -> x.copy(r, 0, 1, -1, 1));
         }
         RiverTuesdays x = new RiverTuesdays();
         Make.row(x, 0, 6);

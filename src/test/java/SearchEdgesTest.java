@@ -11,33 +11,41 @@ public final class SearchEdgesTest {
         mostNumbers();
         mostOfNoneAndOfAll();
         mostOfAlikeOnes();
+        mostFromAsItIs();
         leastNumbers();
         leastOrMore();
         leastOfNinetyNine();
         leastOfAlikeOnes();
+        leastFromAsItIs();
         dryRefused();
         dryOfNoneAndOfAll();
         dryNotEvenWithNone();
+        dryFromAsItIs();
         for (int way = LED; way <= LOOK; way++) {
             marksNumbers(way);
             marksNothing(way);
             marksSize(way);
             marksUnlike(way);
             marksOfEveryRow(way);
+            marksOntoLongerRows(way);
         }
         marksNought();
         ledOfNoneAndOfAll();
+        ledFromAsItIs();
         sureOfOneAndOfAll();
         lookAllSeen();
         lookFirst();
         lookAtTheLast();
+        lookOfNoneAndOne();
         raiseNumbers();
         raiseByFour();
         raiseTogether();
         raiseNoRoom();
+        raiseFromAsItIs();
         raiseToARow();
         whoseFirst();
         whoseOfEight();
+        whoseFromAsItIs();
         Due.end("SearchEdgesTest");
     }
 
@@ -89,6 +97,29 @@ public final class SearchEdgesTest {
         Due.tells(x, "ahead of less harm", x.most(3), 7, 4);
     }
 
+    private static void mostFromAsItIs() {
+        Due.sentence(32, "what is GROUND by asked() (in a TUESDAY from as it is)");
+        RiverTuesdays x = Make.street("q69 m392");
+        Due.tells(x, "3 by three hours side by side", x.harm(7), 1, 3);
+        Due.tells(x, "4 by others", x.most(3), 11, 4);
+        x = halfEmptied();
+        Due.tells(x, "by what stands there", x.most(0), 0, 1);
+    }
+
+    /** 4 stand ahead of the wheel: 2, 1 and 1 of them run on if nothing comes. */
+    private static RiverTuesdays halfEmptied() {
+        RiverTuesdays x = Make.street("q90 w000");
+        Due.is("4 stand", x.hour(1), 4);
+        return x;
+    }
+
+    /** 9 stand ahead of the house, as high as its sill and as the sea. */
+    private static RiverTuesdays brimful() {
+        RiverTuesdays x = Make.street("q99 h099");
+        Due.is("9 stand", x.hour(1), 9);
+        return x;
+    }
+
     // ---- 33 least
 
     private static void leastNumbers() {
@@ -132,7 +163,8 @@ public final class SearchEdgesTest {
     }
 
     private static void leastOfAlikeOnes() {
-        Due.sentence(33, "with least HARM (of alike ones that of fewest HOURS, then the least); that HARM by asked()");
+        Due.sentence(33, "with least HARM (of alike ones that of fewest HOURS, then the least); "
+                + "that HARM by asked()");
         RiverTuesdays x = Make.street("q62 w012");
         x.hour(1);
         x.hour(1);
@@ -148,6 +180,16 @@ public final class SearchEdgesTest {
         Due.tells(x, "least harm ahead of fewest hours", x.least(4), 85, 0);
     }
 
+    private static void leastFromAsItIs() {
+        Due.sentence(33, "The PLAN that GRINDS v or more (in a TUESDAY from as it is)");
+        RiverTuesdays x = halfEmptied();
+        Due.tells(x, "1 by what stands there", x.least(1), 0, 0);
+        Due.tells(x, "2 by one hour more", x.least(2), 1, 0);
+        x = Make.street("q99 h009");
+        Due.tells(x, "harm by others", x.harm(255), 9, 0);
+        Due.tells(x, "none by none", x.least(0), 0, 0);
+    }
+
     // ---- 34 dry
 
     private static void dryRefused() {
@@ -157,7 +199,8 @@ public final class SearchEdgesTest {
     }
 
     private static void dryOfNoneAndOfAll() {
-        Due.sentence(34, "The most HOURS in which it can be OPEN without HARM; the PLAN (the least) by asked()");
+        Due.sentence(34, "The most HOURS in which it can be OPEN without HARM; the PLAN (the "
+                + "least) by asked()");
         dryIs(wheel(), 8, 255);
         dryIs(Make.street("q99 h001"), 0, 0);
         dryIs(Make.street("q99 h081"), 0, 0);
@@ -188,6 +231,12 @@ public final class SearchEdgesTest {
         x.water();
         x.house(0, 2);
         return x;
+    }
+
+    private static void dryFromAsItIs() {
+        Due.sentence(34, "The most HOURS in which it can be OPEN without HARM (from as it is)");
+        dryIs(Make.street("q99 h099"), 1, 1);
+        dryIs(brimful(), 0, 0);
     }
 
     // ---- 35, 36, 37 led, sure, look
@@ -298,8 +347,37 @@ public final class SearchEdgesTest {
         Due.is("nothing was found", x.finding(), 0);
     }
 
+    private static void ledFromAsItIs() {
+        Due.sentence(35, "how many PLANS fit; the least by asked() (from as it is)");
+        RiverTuesdays x = Make.street("q99 h000");
+        Make.row(x, 0, 9);
+        Due.tells(x, "any one hour", x.led(0), 8, 1);
+        x.hour(1);
+        Due.tells(x, "none", x.led(0), 1, 0);
+        x = Make.street("q34 l410");
+        Make.row(x, 0, 7);
+        Due.tells(x, "all but the first, or all but the last", x.led(0), 2, 127);
+    }
+
+    // Places that a row had ahead of its marks are none of them.
+    private static void marksOntoLongerRows(int way) {
+        sentence(way, "From MARKS (that came to a ROW anew)");
+        int[] due = {1, 255, NONE};
+        String[] streets = {"q10 h900 l000", "q10 h900h900h900h900h900h900h900l000"};
+        for (int v : new int[] {NONE, 0, 5, 1000}) {
+            for (String street : streets) {
+                RiverTuesdays x = Make.street(street);
+                x.shut(x.count(0) - 1, 1);
+                Make.fullRow(x, 4, v);
+                Due.is("the greatest", x.marks(255, 4), 8);
+                Due.is("over places of " + v, marksCall(x, way, 4), due[way]);
+            }
+        }
+    }
+
     private static void sureOfOneAndOfAll() {
-        Due.sentence(36, "HOURS in which it surely was OPEN then (bits); those in which it surely was not by asked()");
+        Due.sentence(36, "HOURS in which it surely was OPEN then (bits); those in which it surely "
+                + "was not by asked()");
         RiverTuesdays x = shutLock(NONE, 8);
         Due.tells(x, "all open", x.sure(2), 255, 0);
         x = shutLock(NONE, 0);
@@ -333,7 +411,8 @@ public final class SearchEdgesTest {
     }
 
     private static void lookFirst() {
-        Due.sentence(37, "of those not seen; the first; fewest PLANS are left at most; how many by asked()");
+        Due.sentence(37, "of those not seen; the first; fewest PLANS are left at most; how many "
+                + "by asked()");
         RiverTuesdays x = Make.street("q10 h900 h900 l000 l000");
         x.shut(2, 1);
         Make.row(x, 0, NONE, NONE, NONE, NONE);
@@ -354,6 +433,18 @@ public final class SearchEdgesTest {
         Due.tells(x, "the eighth", x.look(0), 7, 70);
         x.lay(0, 7, 2);
         Due.tells(x, "the first", x.look(0), 0, 28);
+    }
+
+    private static void lookOfNoneAndOne() {
+        Due.sentence(37, "whatever it is (as it is by PLANS that fit), fewest PLANS are left at "
+                + "most");
+        RiverTuesdays x = Make.street("q11 h000");
+        Make.row(x, 0, NONE);
+        Due.tells(x, "0 by one plan, 1 by all others", x.look(0), 0, 255);
+        x = Make.street("q90 l000");
+        x.shut(0, 1);
+        Make.row(x, 0, NONE);
+        Due.tells(x, "0, 9, 18 .. 72", x.look(0), 0, 70);
     }
 
     // ---- 38 raise
@@ -381,7 +472,8 @@ public final class SearchEdgesTest {
     }
 
     private static void raiseByFour() {
-        Due.sentence(38, "The fewest by which SILLS have to be raised together (0 .. 4); NONE: by no more than 4");
+        Due.sentence(38, "The fewest by which SILLS have to be raised together (0 .. 4); NONE: by "
+                + "no more than 4");
         for (int sill = 5; sill <= 9; sill++) {
             int height = sill;
             raiseIs(() -> Make.street("q99 h0" + height + "9"), 1, 9 - sill, 9 - sill);
@@ -429,6 +521,18 @@ public final class SearchEdgesTest {
         return x;
     }
 
+    private static void raiseFromAsItIs() {
+        Due.sentence(38, "so that a TUESDAY does no HARM (from as it is)");
+        raiseIs(() -> Make.street("q99 h099"), 1, 0, 0);
+        raiseIs(SearchEdgesTest::brimful, 1, 4, 4);
+        raiseIs(SearchEdgesTest::brimful, 0, 0, 0);
+        RiverTuesdays x = Make.street("q10 h900h900h900h900h900h900h900l009");
+        x.shut(7, 1);
+        Due.is("of eight, the last", x.raise(15, 3), 4);
+        Due.row(x, "of eight", 3, 0, 0, 0, 0, 0, 0, 0, 4);
+        Due.is("of eight, by more", x.raise(31, 3), NONE);
+    }
+
     private static void raiseToARow() {
         Due.sentence(38, "comes to a ROW (anew); NONE: a ROW stays as it is then");
         RiverTuesdays x = Make.street("q99 h059");
@@ -445,7 +549,8 @@ public final class SearchEdgesTest {
     // ---- 39 whose
 
     private static void whoseFirst() {
-        Due.sentence(39, "Whose SILL, raised by 1, makes HARM least (the first); that HARM by asked()");
+        Due.sentence(39, "Whose SILL, raised by 1, makes HARM least (the first); that HARM by "
+                + "asked()");
         RiverTuesdays x = Make.street("q99 h049 h059");
         Due.tells(x, "none is needed", x.whose(1), 0, 0);
         x = Make.street("q99 h049 h049");
@@ -459,6 +564,14 @@ public final class SearchEdgesTest {
         x = highLock(7);
         Due.tells(x, "above 20", x.whose(7), 0, 0);
         Due.is("the sill stays", Make.house(x, 0, 2), 20);
+    }
+
+    private static void whoseFromAsItIs() {
+        Due.sentence(39, "makes HARM least (in a TUESDAY from as it is)");
+        RiverTuesdays x = Make.street("q99 h099");
+        Due.tells(x, "none", x.whose(1), 0, 0);
+        x = brimful();
+        Due.tells(x, "13 above a sill of 10", x.whose(1), 0, 3);
     }
 
     private static void whoseOfEight() {

@@ -30,6 +30,7 @@ public final class TextEdgesTest {
         streetOfNoneAndOfEight();
         streetByKinds();
         streetAnew();
+        streetBehindOtherCalls();
         streetOfFewer();
         Due.end("TextEdgesTest");
     }
@@ -123,7 +124,8 @@ public final class TextEdgesTest {
     }
 
     private static void putCut() {
-        Due.sentence(9, "Byte i of a TEXT is v, cut to a byte (-128 .. 127): what it was, and 1000 more");
+        Due.sentence(9, "Byte i of a TEXT is v, cut to a byte (-128 .. 127): what it was, and "
+                + "1000 more");
         int[] v = {0, 1, -1, 127, 128, 129, -127, -128, -129, 255, 256, 257, -255, -256, -257,
             32767, 32768, 65536 + 113, MAX, MIN, MAX - 127, MIN + 128};
         int[] bytes = {0, 1, -1, 127, -128, -127, -127, -128, 127, -1, 0, 1, 1, 0, -1,
@@ -364,7 +366,8 @@ public final class TextEdgesTest {
     }
 
     private static void streetByKinds() {
-        Due.term("h (104) HOUSE, m (109) MILL, s (115) SHOP, d (100) DAM, w (119) WHEEL, l (108) LOCK");
+        Due.term("h (104) HOUSE, m (109) MILL, s (115) SHOP, d (100) DAM, w (119) WHEEL, l (108) "
+                + "LOCK");
         RiverTuesdays x = Make.street("q10 h098 m109 s210 d321 w432 l543");
         for (int i = 0; i < 6; i++) {
             Due.tells(x, "kind " + i, x.house(i, 0), 1, i);
@@ -405,6 +408,20 @@ public final class TextEdgesTest {
         Due.is("rows stay", Make.at(x, 0, 2), 9);
         x.street(0);
         Due.is("asked stays", x.asked(), 9);
+    }
+
+    private static void streetBehindOtherCalls() {
+        Due.sentence(11, "no LOCK SHUT (whatever was asked for ahead of it)");
+        RiverTuesdays x = Make.built();
+        x.raise(255, 3);
+        x.whose(255);
+        x.mark(4, 5);
+        x.years(2, 7);
+        Due.is("street anew", x.street(0), 6);
+        Due.is("no lock shut", x.count(4), 0);
+        Due.is("not by its mark", x.mark(4, 5), 0);
+        Due.is("findings stay", x.findings(1), 1);
+        Due.is("the latest one, too", x.finding(), 1);
     }
 
     private static void streetOfFewer() {

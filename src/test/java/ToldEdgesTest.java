@@ -28,6 +28,7 @@ public final class ToldEdgesTest {
         findingsNumbers();
         findingsOfManyCalls();
         digestOfNone();
+        digestOfOneHouse();
         digestOfAll();
         digestWrapsAround();
         digestLeavesAsked();
@@ -183,7 +184,8 @@ public final class ToldEdgesTest {
     private static void leaves(String call, ToLongFunction<RiverTuesdays> by) {
         RiverTuesdays x = Make.built();
         long answer = by.applyAsLong(x);
-        Due.is(call + " is answered", answer == BAD || answer == FINDING || answer == STATE ? 1 : 0, 0);
+        boolean isRefused = answer == BAD || answer == FINDING || answer == STATE;
+        Due.is(call + " is refused", isRefused ? 1 : 0, 0);
         Due.is(call + " leaves asked()", x.asked(), 77);
     }
 
@@ -271,7 +273,8 @@ public final class ToldEdgesTest {
     }
 
     private static void upperAndLowerOfAll() {
-        Due.sentence(45, "WATER that stands (ahead of HOUSES, in cellars) as a part of all that came in");
+        Due.sentence(45, "WATER that stands (ahead of HOUSES, in cellars) as a part of all that "
+                + "came in");
         RiverTuesdays x = Make.street("q99 h000");
         x.hour(1);
         partIs(x, "all ahead", 1, 1);
@@ -471,9 +474,23 @@ public final class ToldEdgesTest {
         Due.is("a row of none", x.digest(), digestOf(all));
     }
 
+    private static void digestOfOneHouse() {
+        Due.sentence(50, "FLOW, SEA, what came in, went out");
+        RiverTuesdays x = Make.street("q75 m214");
+        List<Integer> all = new ArrayList<>(List.of(1, 0, 1, 0, 0, 0, 0, 1, 7, 5, 0, 0,
+                1, 2, 1, 4, 0, 0, 0, 0, -1, -1, -1, -1, -1, -1, -1, -1, -1, 0, -1, -1, -1));
+        x.text(0, 0);
+        Due.is("dry", x.digest(), digestOf(all));
+        x.hour(1);
+        all = new ArrayList<>(List.of(1, 1, 1, 0, 0, 0, 0, 1, 7, 5, 7, 2,
+                1, 2, 1, 4, 1, 4, 1, 0, 1, -1, -1, -1, -1, -1, -1, -1, -1, -1, 0, -1, -1, -1));
+        Due.is("an hour later", x.digest(), digestOf(all));
+    }
+
     /** Everything full: 8 houses, 60 hours, 3 kept, 6 rows and 4 texts of 60 places. */
     private static void digestOfAll() {
-        Due.sentence(50, "of each HOUSE .., of each HOUR .., of each ROW its size and places, of each TEXT likewise");
+        Due.sentence(50, "of each HOUSE .., of each HOUR .., of each ROW its size and places, of "
+                + "each TEXT likewise");
         RiverTuesdays x = Make.street("q99l099l099l099l099l099l099l099l099");
         List<Integer> all = new ArrayList<>(List.of(8, 60, 0, 8, 8, 3, 6, 4, 9, 9, 45, 0));
         shutAndLead(x, all);
@@ -507,7 +524,7 @@ public final class ToldEdgesTest {
         }
         for (int i = 0; i < 8; i++) {
             x.sill(i, 20);
-            all.addAll(i == 0 ? List.of(5, 0, 20, 9, 36, 9, 0, 1) : List.of(5, 0, 20, 9, 0, 0, 0, 1));
+            all.addAll(List.of(5, 0, 20, 9, i == 0 ? 36 : 0, i == 0 ? 9 : 0, 0, 1));
         }
         all.addAll(open);
     }

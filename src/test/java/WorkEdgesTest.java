@@ -78,9 +78,12 @@ public final class WorkEdgesTest {
 
     private static void jobsNothing(boolean isWork) {
         sentence(isWork, "NOTHING: either (ahead of SIZE, UNLIKE)");
-        Refused.finds(WorkEdgesTest::oneJob, "takes", Refused.NOTHING, x -> jobsCall(x, isWork, 2, 1));
-        Refused.finds(WorkEdgesTest::oneJob, "due", Refused.NOTHING, x -> jobsCall(x, isWork, 0, 2));
-        Refused.finds(WorkEdgesTest::oneJob, "both", Refused.NOTHING, x -> jobsCall(x, isWork, 2, 3));
+        Refused.finds(WorkEdgesTest::oneJob, "takes", Refused.NOTHING,
+                x -> jobsCall(x, isWork, 2, 1));
+        Refused.finds(WorkEdgesTest::oneJob, "due", Refused.NOTHING,
+                x -> jobsCall(x, isWork, 0, 2));
+        Refused.finds(WorkEdgesTest::oneJob, "both", Refused.NOTHING,
+                x -> jobsCall(x, isWork, 2, 3));
         int[] seven = {0, 0, 0, 0, 0, 0, 0};
         Refused.finds(() -> jobs(seven, seven), "takes, seven unlike due", Refused.NOTHING,
                 x -> jobsCall(x, isWork, 2, 1));
@@ -164,7 +167,8 @@ public final class WorkEdgesTest {
     }
 
     private static void workLate() {
-        Due.sentence(40, "HOURS by which it is due; the least by which all of them are late together");
+        Due.sentence(40, "HOURS by which it is due; the least by which all of them are late "
+                + "together");
         workIs("due as it is done", new int[] {5}, new int[] {5}, 0, 0);
         workIs("due one ahead", new int[] {5}, new int[] {4}, 1, 0);
         workIs("due one behind", new int[] {5}, new int[] {6}, 0, 0);
@@ -212,7 +216,8 @@ public final class WorkEdgesTest {
         doneIs("one of one", new int[] {2}, new int[] {2}, 1, 1);
         doneIs("six of six", new int[] {1, 1, 1, 1, 1, 1}, new int[] {6, 5, 4, 3, 2, 1}, 6, 63);
         doneIs("none of six", new int[] {2, 2, 2, 2, 2, 2}, new int[] {1, 1, 1, 1, 1, 1}, 0, 0);
-        doneIs("the last of six", new int[] {2, 2, 2, 2, 2, 2}, new int[] {1, 1, 1, 1, 1, 2}, 1, 32);
+        doneIs("the last of six", new int[] {2, 2, 2, 2, 2, 2}, new int[] {1, 1, 1, 1, 1, 2},
+                1, 32);
     }
 
     private static void doneInTime() {
@@ -220,7 +225,8 @@ public final class WorkEdgesTest {
         doneIs("both, at the hour", new int[] {3, 4}, new int[] {7, 4}, 2, 3);
         doneIs("one of them an hour late", new int[] {3, 4}, new int[] {6, 4}, 1, 1);
         doneIs("the second alone", new int[] {3, 4}, new int[] {2, 4}, 1, 2);
-        doneIs("99, at the hour", new int[] {24, 24, 24, 24, 3}, new int[] {99, 99, 99, 99, 99}, 5, 31);
+        doneIs("99, at the hour", new int[] {24, 24, 24, 24, 3}, new int[] {99, 99, 99, 99, 99},
+                5, 31);
         doneIs("100, an hour late", new int[] {24, 24, 24, 24, 4}, new int[] {99, 99, 99, 99, 99},
                 4, 15);
     }
@@ -248,18 +254,22 @@ public final class WorkEdgesTest {
     }
 
     private static void calendarNumbers() {
-        Due.sentence(42, "day d (0 .. 9999), p (1 .. 30) days, s (-9 .. 9) days; BAD (ahead of NOTHING)");
+        Due.sentence(42, "day d (0 .. 9999), p (1 .. 30) days, s (-9 .. 9) days; BAD (ahead of "
+                + "NOTHING)");
         for (int d : new int[] {-1, 10000, MIN, MAX}) {
             Refused.bad(WorkEdgesTest::dayNought, "d " + d, x -> x.calendar(d, 7, 0, 0));
-            Refused.bad(WorkEdgesTest::dayNought, "d " + d + ", no row", x -> x.calendar(d, 7, 2, 0));
+            Refused.bad(WorkEdgesTest::dayNought, "d " + d + ", no row",
+                    x -> x.calendar(d, 7, 2, 0));
         }
         for (int p : new int[] {-1, 0, 31, MIN, MAX}) {
             Refused.bad(WorkEdgesTest::dayNought, "p " + p, x -> x.calendar(0, p, 0, 0));
-            Refused.bad(WorkEdgesTest::dayNought, "p " + p + ", no row", x -> x.calendar(0, p, 2, 0));
+            Refused.bad(WorkEdgesTest::dayNought, "p " + p + ", no row",
+                    x -> x.calendar(0, p, 2, 0));
         }
         for (int s : new int[] {-10, 10, MIN, MAX}) {
             Refused.bad(WorkEdgesTest::dayNought, "s " + s, x -> x.calendar(0, 7, 0, s));
-            Refused.bad(WorkEdgesTest::dayNought, "s " + s + ", no row", x -> x.calendar(0, 7, 2, s));
+            Refused.bad(WorkEdgesTest::dayNought, "s " + s + ", no row",
+                    x -> x.calendar(0, 7, 2, s));
         }
         for (int r : NO_ROWS) {
             Refused.bad(WorkEdgesTest::dayNought, "row " + r, x -> x.calendar(0, 7, r, 0));
@@ -294,7 +304,8 @@ public final class WorkEdgesTest {
                     x -> x.calendar(0, 7, 0, 0));
         }
         Refused.finds(() -> oneDay(1), "day 1 of 1", Refused.UNLIKE, x -> x.calendar(0, 1, 0, 0));
-        Refused.finds(() -> oneDay(30), "day 30 of 30", Refused.UNLIKE, x -> x.calendar(0, 30, 0, 0));
+        Refused.finds(() -> oneDay(30), "day 30 of 30", Refused.UNLIKE,
+                x -> x.calendar(0, 30, 0, 0));
         Refused.finds(WorkEdgesTest::lastDayUnlike, "the last of 60 is 7", Refused.UNLIKE,
                 x -> x.calendar(0, 7, 3, 0));
         Due.is("day 0 of 1", oneDay(0).calendar(5, 1, 0, 0), 1);
@@ -404,7 +415,8 @@ public final class WorkEdgesTest {
     }
 
     private static void yearsGoOn() {
-        Due.sentence(43, "n TUESDAYS from a dry STREET on, a PLAN each, cellars pumped out ahead of each");
+        Due.sentence(43, "n TUESDAYS from a dry STREET on, a PLAN each, cellars pumped out ahead "
+                + "of each");
         // Plans 143 (5 hours) and 226 (4 hours).
         RiverTuesdays x = shutLock("09");
         Due.tells(x, "all goes below", x.years(2, 1), 5 + 4, 0);

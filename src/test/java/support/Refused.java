@@ -12,20 +12,24 @@ final class Refused {
     private Refused() {
     }
 
-    static void bad(Supplier<RiverTuesdays> from, String what, ToIntFunction<RiverTuesdays> call) {
+    static void bad(Supplier<RiverTuesdays> from, String what,
+            ToIntFunction<RiverTuesdays> call) {
         by(from, what, RiverTuesdays.BAD, call);
     }
 
-    static void state(Supplier<RiverTuesdays> from, String what, ToIntFunction<RiverTuesdays> call) {
+    static void state(Supplier<RiverTuesdays> from, String what,
+            ToIntFunction<RiverTuesdays> call) {
         by(from, what, RiverTuesdays.STATE, call);
     }
 
-    static void full(Supplier<RiverTuesdays> from, String what, ToIntFunction<RiverTuesdays> call) {
+    static void full(Supplier<RiverTuesdays> from, String what,
+            ToIntFunction<RiverTuesdays> call) {
         by(from, what, RiverTuesdays.FULL, call);
     }
 
     /** No refusal, but it changes as little: a row that something was to come to stays, too. */
-    static void none(Supplier<RiverTuesdays> from, String what, ToIntFunction<RiverTuesdays> call) {
+    static void none(Supplier<RiverTuesdays> from, String what,
+            ToIntFunction<RiverTuesdays> call) {
         by(from, what, RiverTuesdays.NONE, call);
     }
 
