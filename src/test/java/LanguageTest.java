@@ -5,8 +5,9 @@ import java.lang.reflect.Modifier;
 import java.nio.file.Files;
 import java.nio.file.Path;
 import java.util.Arrays;
+import java.util.Map;
 import java.util.Set;
-import java.util.TreeSet;
+import java.util.TreeMap;
 import java.util.regex.Matcher;
 import java.util.regex.Pattern;
 import java.util.stream.Collectors;
@@ -14,25 +15,23 @@ import java.util.stream.Collectors;
 /** What of LANGUAGE.md can be seen from the source and from the class itself. */
 public final class LanguageTest {
     private static final Path SOURCE = Path.of("src/main/java/RiverTuesdays.java");
+    private static final Path DOCUMENT = Path.of("../shared/DOC.md");
     private static final String[] OUTSIDE = {"throw", "throws", "try", "catch", "finally",
         "synchronized", "assert", "volatile", "transient", "native", "package", "protected",
         "equals", "hashCode", "toString", "Random", "Thread", "Object", "Exception", "var"};
-    private static final String[] FACE = {"row", "lay", "at", "tear", "copy", "mean", "text", "put",
-        "fault", "street", "house", "mark", "sill", "flow", "shut", "pump", "hour", "undo", "water",
-        "keep", "on", "harm", "wet", "when", "cut", "boat", "trade", "marks", "stands", "tuesday",
-        "most", "least", "dry", "led", "sure", "look", "raise", "whose", "work", "done", "calendar",
-        "years", "asked", "upper", "lower", "count", "finding", "findings", "digest"};
     private static final Set<String> LIBRARY = Set.of("Math.max", "Math.min", "Math.floorMod",
         "Integer.bitCount", "Arrays.fill", "System.arraycopy");
 
     public static void main(String[] args) throws Exception {
         String source = Files.readString(SOURCE);
+        Map<String, String> face = methodsOf(Files.readString(DOCUMENT));
         words(withoutComments(source));
         library(withoutComments(source));
         methodsAreShort(source);
-        face();
+        face(face);
+        constants(Files.readString(DOCUMENT));
         for (Class<?> c : RiverTuesdays.class.getDeclaredClasses()) {
-            nested(c);
+            nested(c, face.keySet());
         }
         Due.is("some twelve classes at most",
                 RiverTuesdays.class.getDeclaredClasses().length < 12 ? 1 : 0, 1);
@@ -69,40 +68,75 @@ public final class LanguageTest {
             long lines = m.group().lines().count();
             Due.is("lines of " + m.group(2) + ", too many", lines > 60 ? lines : 0, 0);
         }
-        Due.is("methods seen", methods > FACE.length + 50 ? 1 : 0, 1);
+        Due.is("methods seen", methods > 100 ? 1 : 0, 1);
     }
 
     private static boolean isHidden(Member m) {
         return Modifier.isPrivate(m.getModifiers());
     }
 
-    private static void face() {
+    /** The document's methods by their names, each with its types. */
+    private static Map<String, String> methodsOf(String document) {
+        Map<String, String> methods = new TreeMap<>();
+        Matcher m = Pattern.compile("(?m)^    public (int|long) (\\w+)\\((.*)\\);$").matcher(document);
+        while (m.find()) {
+            String types = m.group(3).replaceAll(" \\w+(,|$)", "$1");
+            methods.put(m.group(2), m.group(1) + " (" + types + ")");
+        }
+        Due.is("the document's methods", methods.size(), 49);
+        return methods;
+    }
+
+    private static String typesOf(Method m) {
+        return m.getReturnType() + Arrays.stream(m.getParameterTypes()).map(Class::getName)
+                .collect(Collectors.joining(", ", " (", ")"));
+    }
+
+    private static void face(Map<String, String> due) {
         Class<?> c = RiverTuesdays.class;
         Due.is("public and final", c.getModifiers(), Modifier.PUBLIC | Modifier.FINAL);
         Due.is("one constructor", c.getDeclaredConstructors().length, 1);
-        Set<String> open = Arrays.stream(c.getDeclaredMethods()).filter(m -> !isHidden(m))
-                .map(Method::getName).collect(Collectors.toCollection(TreeSet::new));
-        Due.is("the face", open.equals(new TreeSet<>(Arrays.asList(FACE))) ? 1 : 0, 1);
-        Due.is("no two of one name", Arrays.stream(c.getDeclaredMethods())
-                .filter(m -> !isHidden(m)).count(), FACE.length);
+        Due.is("of no parameters, public", c.getConstructors()[0].getParameterCount(), 0);
+        int open = 0;
         for (Method m : c.getDeclaredMethods()) {
-            boolean bearsName = isHidden(m) && open.contains(m.getName());
-            Due.is("private " + m.getName() + " bears a public name", bearsName ? 1 : 0, 0);
+            if (isHidden(m)) {
+                Due.is("private " + m.getName() + " bears a public name",
+                        due.containsKey(m.getName()) ? 1 : 0, 0);
+            } else {
+                open++;
+                boolean isAsDue = typesOf(m).equals(due.get(m.getName()))
+                        && m.getModifiers() == Modifier.PUBLIC;
+                Due.is(m + " is as in the document", isAsDue ? 1 : 0, 1);
+            }
             parameters(m);
         }
-        for (Field f : c.getDeclaredFields()) {
-            boolean isConstant = Set.of("BAD", "FULL", "FINDING", "STATE", "SPENT", "NONE")
-                    .contains(f.getName());
-            Due.is("field " + f.getName() + " is hidden", isHidden(f) ? 1 : 0, isConstant ? 0 : 1);
-        }
+        Due.is("methods that are not private", open, due.size());
         fields(c);
     }
 
-    private static void nested(Class<?> c) {
+    private static void constants(String document) throws IllegalAccessException {
+        Matcher line = Pattern.compile("public static final int (.*);").matcher(document);
+        Due.is("the document's constants", line.find() ? 1 : 0, 1);
+        Map<String, Integer> due = new TreeMap<>();
+        for (String part : line.group(1).split(", ")) {
+            due.put(part.split(" = ")[0], Integer.parseInt(part.split(" = ")[1]));
+        }
+        for (Field f : RiverTuesdays.class.getDeclaredFields()) {
+            if (due.containsKey(f.getName())) {
+                Due.is(f.getName(), f.getInt(null), due.remove(f.getName()));
+                Due.is(f.getName() + " is public", f.getModifiers(),
+                        Modifier.PUBLIC | Modifier.STATIC | Modifier.FINAL);
+            } else {
+                Due.is("field " + f.getName() + " is hidden", isHidden(f) ? 1 : 0, 1);
+            }
+        }
+        Due.is("constants that are missing", due.size(), 0);
+    }
+
+    private static void nested(Class<?> c, Set<String> face) {
         Due.is(c + " is static", Modifier.isStatic(c.getModifiers()) ? 1 : 0, 1);
         for (Method m : c.getDeclaredMethods()) {
-            boolean bearsName = Arrays.asList(FACE).contains(m.getName());
-            Due.is(m + " bears a public name", bearsName ? 1 : 0, 0);
+            Due.is(m + " bears a public name", face.contains(m.getName()) ? 1 : 0, 0);
             parameters(m);
         }
         fields(c);
